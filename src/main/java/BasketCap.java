@@ -1207,6 +1207,7 @@ public final class BasketCap {
     private static final class Search {
         static final int LINES = 1 + BUYERS;
         static final int FINENESS = 8;
+        static final int ONE = 1 << FINENESS;
         static final int TOLLS = 1024;
         static final int HALVINGS = 10;
 
@@ -1260,14 +1261,29 @@ public final class BasketCap {
 
         void find(int[] table, Row row) {
             row.known = true;
-            row.there = takeLowest();
-            if (!row.there) {
-                return;
+            row.there = prepare(table);
+            if (row.there) {
+                seek(row);
+            }
+        }
+
+        boolean prepare(int[] table) {
+            if (!takeLowest()) {
+                return false;
             }
             for (int s = 0; s < services; s++) {
                 setStairs(table, s);
             }
             setToll();
+            return true;
+        }
+
+        /** No row is worth more than this. */
+        int bound() {
+            return rest[0] + toll * room[0] >> FINENESS;
+        }
+
+        void seek(Row row) {
             startGreedily();
             descend(0, 0);
             row.worth = greatest;
@@ -1394,7 +1410,7 @@ public final class BasketCap {
             for (int i = 0; i <= top; i++) {
                 int sum = gained + worth[at + i];
                 int roomThen = room[0] - load[s] * rise[at + i];
-                if ((sum - greatest << FINENESS) + rest[s + 1] + toll * roomThen > 0) {
+                if ((sum - greatest << FINENESS) + rest[s + 1] + toll * roomThen >= ONE) {
                     pick[s] = i;
                     take(s, i, 1);
                     descend(s + 1, sum);
@@ -1600,9 +1616,16 @@ public final class BasketCap {
                 if (!gameThere || first + free > played[0]) {
                     trial.end(told);
                     search.begin(told, trial);
-                    search.find(told.profitAt, row);
-                    noteGame(first + row.worth, s, p, first);
+                    playNext(told, s, p, first);
                 }
+            }
+        }
+
+        /** The year behind the trial's: sought only if it could win. */
+        void playNext(Told told, int s, int p, int first) {
+            if (search.prepare(told.profitAt) && (!gameThere || first + search.bound() > played[0])) {
+                search.seek(row);
+                noteGame(first + row.worth, s, p, first);
             }
         }
 

@@ -394,6 +394,32 @@ public final class EdgeActsTest {
         E.due("trouble()", cap.trouble(), 5);
     }
 
+    @Says("BACK TO one it is as then")
+    static void p46_whatWasSoughtInBetweenIsForgotten() {
+        BasketCap cap = with(TEN + ";buyer p 1,2;carry 50", 4, 3);
+        String then = sought(cap);
+        cap.keep(0);
+        cap.year(false);
+        cap.become(0, 50);
+        cap.price(0, 0);
+        String later = sought(cap);
+        E.due("it is another year", later.equals(then), false);
+        cap.back(0);
+        E.due("back", sought(cap).equals(then), true);
+        cap.price(1, 9);
+        E.due("a price counts", sought(cap).equals(then), false);
+        cap.back(0);
+        E.due("back again", sought(cap).equals(then), true);
+    }
+
+    private static String sought(BasketCap cap) {
+        int[] all = {cap.best(), cap.fair(), cap.rows(), cap.gentle(), cap.steady(2), cap.path(8, 0), cap.path(8, 1),
+            cap.path(8, 2), cap.path(8, 3), cap.reach(3), cap.game(0), cap.game(1), cap.game(2), cap.game(3), cap.next(),
+            cap.trade(0), cap.trade(1), cap.trade(2), cap.trade(3), cap.most(0), cap.freely(0), cap.hurt(),
+            cap.level(0, 0), cap.share(0, 1)};
+        return java.util.Arrays.toString(all);
+    }
+
     @Says("no ACT can be undone (a TEXT leaves no IMAGE)")
     static void p46_actsBehindItCanBeUndone() {
         BasketCap cap = Edges.rich();

@@ -177,6 +177,21 @@ public final class EdgeBuyersTest {
         E.withoutText("gentle()", c -> c.gentle());
     }
 
+    @Says("no BUYER's BURDEN is above that at PRICES")
+    static void p27_buyersOfEarlierTextsHoldNothing() {
+        BasketCap cap = new BasketCap();
+        for (int i = 0; i < 3; i++) {
+            Texts.load(cap, Edges.flat(0, 0, 1, 1) + ";buyer p 1,1;buyer q 9,9;buyer r 7,8;buyer s 6,5");
+            E.fine(cap, "four", cap.gentle(), 0);
+            for (int k = 0; k <= i; k++) {
+                Texts.load(cap, TEN + ";index 50;buyer p 1,0");
+            }
+            E.fine(cap, "one", cap.gentle(), 15);
+            Texts.load(cap, TEN + ";index 50");
+            E.fine(cap, "none", cap.gentle(), 15);
+        }
+    }
+
     @Says("GENTLE: the price of a SERVICE.")
     static void p28_knownAnewBehindEachAct() {
         BasketCap cap = Texts.of(Edges.flat(10, 0, 10) + ";buyer p 1;index 50");
@@ -249,6 +264,35 @@ public final class EdgeBuyersTest {
         E.fine(less, "steady(0) of 5", less.steady(0), 5);
         less.price(0, 20);
         E.fine(less, "NEW prices don't count", less.steady(0), 5);
+    }
+
+    @Says("STEADY by d (0 .. 20): PROFIT together")
+    static void p29_knownAnewBehindEachAct() {
+        BasketCap cap = Texts.of(Edges.flat(10, 0, 10) + " quality 0 target 1");
+        E.fine(cap, "steady(5)", cap.steady(5), 100);
+        cap.become(3, 30);
+        E.fine(cap, "a due", cap.steady(5), 70);
+        cap.become(3, 60);
+        E.due("a greater one", cap.steady(5), Edges.NONE);
+        E.due("trouble()", cap.trouble(), 6);
+        cap.quality(0, 1);
+        E.fine(cap, "a quality", cap.steady(5), 100);
+        cap.become(0, 50);
+        E.fine(cap, "an index", cap.steady(5), 150);
+        cap.keep(0);
+        cap.price(0, 6);
+        E.fine(cap, "a price", cap.steady(5), 150);
+        cap.year(false);
+        E.fine(cap, "a year: 90 and 15 carried", cap.steady(5), 100);
+        E.fine(cap, "6 at least, 7 at most", cap.steady(1), 70);
+        cap.undo();
+        E.fine(cap, "undone", cap.steady(1), 110);
+        cap.become(1, 50);
+        E.fine(cap, "an x", cap.steady(1), 100);
+        cap.back(0);
+        E.fine(cap, "back", cap.steady(1), 110);
+        Texts.load(cap, Edges.flat(5, 0, 1));
+        E.fine(cap, "a text", cap.steady(1), 5);
     }
 
     @Says("STEADY by d: the price of a SERVICE.")
@@ -389,6 +433,14 @@ public final class EdgeBuyersTest {
         trades(Edges.flat(5, 0, 1), new int[] {0, 0}, 0, 0, 0, 0, 6);
         trades(Edges.flat(0, 0, 1, 1), new int[] {0, 0}, 0, 0, 0, 0, 6);
         trades(TEN, new int[] {20, 10}, 0, 0, 0, 0, 6);
+        BasketCap then = Texts.of(TEN);
+        E.fine(then, "there is one", then.trade(0), 10);
+        then.price(0, 20);
+        then.price(1, 10);
+        E.due("there is none then", then.trade(0), Edges.NONE);
+        E.due("trouble()", then.trouble(), 6);
+        then.undo();
+        E.fine(then, "and one again", then.trade(3), 16);
         E.refused("trade(4) where there is none", () -> Texts.of(Edges.flat(5, 0, 1)), c -> c.trade(4), 1);
     }
 

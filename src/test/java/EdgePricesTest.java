@@ -211,6 +211,33 @@ public final class EdgePricesTest {
         E.onlyAnswers("fair()", c -> c.fair());
     }
 
+    @Says("FAIR: GOOD together")
+    static void p17_knownAnewBehindEachAct() {
+        // GOOD is -5 at 0 and more by 6 less p at each p up to 6
+        BasketCap cap = Texts.of("service a price 2 size 10 slope 1 cost 5 quality 0 target 1");
+        int[] good = {-5, 0, 4, 7, 9, 10, 10};
+        E.fine(cap, "at 2", cap.fair(), good[2]);
+        cap.become(3, 8);
+        E.fine(cap, "a due: 8 of 16", cap.fair(), good[1]);
+        cap.quality(0, 1);
+        E.fine(cap, "a quality", cap.fair(), good[2]);
+        cap.become(0, 50);
+        E.fine(cap, "an index: 24", cap.fair(), good[3]);
+        cap.keep(0);
+        cap.price(0, 3);
+        cap.year(false);
+        E.fine(cap, "a year: 31 of 7 each", cap.fair(), good[4]);
+        cap.undo();
+        E.fine(cap, "undone", cap.fair(), good[3]);
+        cap.become(1, 50);
+        E.fine(cap, "an x", cap.fair(), good[2]);
+        cap.back(0);
+        E.fine(cap, "back", cap.fair(), good[3]);
+        E.fine(cap, "laid", cap.lay(true), 24);
+        Texts.load(cap, "service a price 0 size 1 slope 1 cost 1");
+        E.fine(cap, "a text", cap.fair(), -1);
+    }
+
     @Says("NONE: 1 (no TEXT).")
     static void p17_refusals() {
         E.withoutText("fair()", c -> c.fair());
@@ -356,6 +383,8 @@ public final class EdgePricesTest {
         games(Texts.of(Edges.flat(5, 0, 1)), 10, 0, 5, 5);
         games(with(Edges.flat(5, 0, 1), 2), 10, 0, 5, 5);
         games(with(Edges.flat(5, 0, 1), 20), 10, 0, 5, 5);
+        games(with(Edges.flat(20, 0, 1), 0), 40, 0, 20, 20);
+        games(Texts.of(Edges.flat(20, 0, 1) + ";x 1"), 19 + 18, 0, 19, 19);
         // only one goes: beside 20 and 20 none, beside 10 the other may have 0
         games(with(TEN, 10, 20), 20, 1, 0, 10);
         games(with(TEN, 20, 10), 20, 0, 0, 10);

@@ -262,6 +262,58 @@ public final class EdgeTextsTest {
         E.due("next()", cap.next(), fresh.next());
     }
 
+    @Says({"The first n bytes of THE TAPE (it is empty then) are THE TEXT", "the end of the text: how many bytes it has"})
+    static void p03_whatStandsBehindNIsNotRead() {
+        String long1 = "service abcdefg price 19 size 199 slope 8 cost 19 quality 98 target 98;buyer bcdefgh 98;index 49";
+        for (int n = 0; n <= long1.length(); n++) {
+            BasketCap part = new BasketCap();
+            int answer = Texts.load(part, long1.substring(0, n));
+            BasketCap cap = new BasketCap();
+            Edges.feed(cap, long1);
+            E.due("text(" + n + ")", cap.text(n), answer);
+            E.due("fault() of " + n, cap.fault(), part.fault());
+            E.due("where() of " + n, cap.where(), part.where());
+            for (int i = 0; i < 7; i++) {
+                E.due("service(0, " + i + ") of " + n, cap.service(0, i), part.service(0, i));
+            }
+            E.due("units of " + n, cap.units(0, 0), part.units(0, 0));
+            E.due("index of " + n, cap.rule(0), part.rule(0));
+        }
+        E.faulty(" ".repeat(493) + "service", 1, 500);
+        E.faulty(" ".repeat(494) + "servic", 1, 494);
+        E.faulty(" ".repeat(499) + "1", 1, 499);
+    }
+
+    @Says({"both 0 without", "index WHOLE (0 .. 50, 0 without), x WHOLE (0 .. 50, 0 without),",
+        "carry WHOLE (0 .. 100, 10 without), due WHOLE (0 .. 99, 0 without)"})
+    static void p03_nothingOfEarlierTextsStays() {
+        String all = "service a price 9 size 9 slope 9 cost 9 quality 9 target 99;service b price 9 size 9 slope 9 cost 9 "
+                + "quality 9 target 99;buyer p 9,9;buyer q 9,9;index 9;x 8;carry 99;due 7";
+        BasketCap cap = new BasketCap();
+        for (int i = 0; i < 6; i++) {
+            Texts.load(cap, all);
+            if (i % 2 == 0) {
+                Texts.load(cap, all.replace("buyer q", "buyer a"));
+            }
+            if (i % 3 == 0) {
+                Texts.load(cap, all.replace("price 9", "price 1"));
+            }
+            E.fine(cap, "text", Texts.load(cap, Edges.flat(5, 0, 9, 9)), 2);
+            int[] rules = {0, 0, 10, 0};
+            for (int k = 0; k < 4; k++) {
+                E.fine(cap, "rule(" + k + ")", cap.rule(k), rules[k]);
+            }
+            for (int s = 0; s < 2; s++) {
+                E.fine(cap, "QUALITY", cap.service(s, 5), 0);
+                E.fine(cap, "TARGET", cap.service(s, 6), 0);
+            }
+            E.fine(cap, "DUES", cap.about(5), 0);
+            E.due("a buyer", cap.buyer(0, 0), Edges.NONE);
+            E.fine(cap, "hurt()", cap.hurt(), 0);
+            E.fine(cap, "gentle()", cap.gentle(), cap.best());
+        }
+    }
+
     @Says({"(a TEXT leaves none)", "(a TEXT leaves no IMAGE)"})
     static void p03_aTextLeavesNoActAndNoImage() {
         BasketCap cap = Edges.rich();
@@ -495,6 +547,22 @@ public final class EdgeTextsTest {
                 }
             }
         }
+    }
+
+    @Says({"1 FORM: a byte that begins no TOKEN", "letters or digits too many that stand together (at the first of these)"})
+    static void p04_noTokenIsNoComma() {
+        String ahead = services(2) + ";buyer z 1";
+        for (int v = 0; v < 256; v++) {
+            char c = (char) v;
+            if (c != ',' && c != ' ' && !(c >= '0' && c <= '9')) {
+                E.faulty(ahead + c + "2", 1, ahead.length());
+            }
+        }
+        E.sound(ahead + ",2", 2);
+        E.faulty(ahead + " abcdefgh 2", 1, ahead.length() + 1);
+        E.faulty(ahead + " 0000 2", 1, ahead.length() + 1);
+        E.faulty(S + "?index 1", 1, 39);
+        E.faulty(S + " abcdefgh index 1", 1, 40);
     }
 
     @Says("the end of the text: how many bytes it has")
