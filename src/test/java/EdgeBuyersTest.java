@@ -107,6 +107,26 @@ public final class EdgeBuyersTest {
         E.onlyAnswers("hurt()", c -> c.hurt());
     }
 
+    @Says("BUYERS whose BURDEN at NEW prices is above that at PRICES, as bits.")
+    static void p25_moreOrFewerBuyersThanServices() {
+        BasketCap more = with(Edges.flat(5, 0, 1) + ";buyer p 0;buyer q 1;buyer r 0;buyer s 2", 6);
+        E.fine(more, "four of one service", more.hurt(), 10);
+        BasketCap fewer = with(Edges.flat(5, 0, 1, 1, 1) + ";buyer p 0,0,1", 0, 0, 6);
+        E.fine(fewer, "one of three", fewer.hurt(), 1);
+        // burdens 5 and 500 at PRICES
+        BasketCap unlike = with(Edges.flat(5, 0, 1, 1) + ";buyer p 1,0;buyer q 1,99", 6, 5);
+        E.fine(unlike, "both", unlike.hurt(), 3);
+        unlike.price(1, 4);
+        E.fine(unlike, "the first alone", unlike.hurt(), 1);
+        E.fine(unlike, "hardest()", unlike.hardest(), 0);
+        unlike.price(1, 6);
+        E.fine(unlike, "hardest() of 1 and 100", unlike.hardest(), 1);
+        for (String text : Edges.MIXED) {
+            E.asPlain("hurt()", text, c -> c.hurt(), p -> p.hurt());
+            E.asPlain("hardest()", text, c -> c.hardest(), p -> p.hardest());
+        }
+    }
+
     @Says("NONE: 1 (no TEXT).")
     static void p25_refusals() {
         E.withoutText("hurt()", c -> c.hurt());
@@ -175,6 +195,21 @@ public final class EdgeBuyersTest {
     @Says("NONE: 1 (no TEXT).")
     static void p27_refusals() {
         E.withoutText("gentle()", c -> c.gentle());
+    }
+
+    @Says("no BUYER's BURDEN is above that at PRICES")
+    static void p27_mixedServices() {
+        gentle("service a price 2 size 5 slope 0 cost 0;service b price 9 size 5 slope 0 cost 0;buyer p 1,0;buyer q 0,1;"
+                + "index 50", 55, 2, 9);
+        for (String text : Edges.MIXED) {
+            E.asPlain("gentle()", text, c -> c.gentle(), p -> p.gentle());
+            for (int k = 0; k < 3; k++) {
+                int s = k;
+                E.asPlain("gentleOf(" + s + ")", text, c -> c.gentleOf(s), p -> p.gentleOf(s));
+            }
+        }
+        E.asPlain("gentle()", Edges.MIXED_FOUR, c -> c.gentle(), p -> p.gentle());
+        E.asPlain("gentleOf(2)", Edges.MIXED_FOUR, c -> c.gentleOf(2), p -> p.gentleOf(2));
     }
 
     @Says("no BUYER's BURDEN is above that at PRICES")
@@ -309,6 +344,26 @@ public final class EdgeBuyersTest {
         E.onlyAnswers("steadyOf(2, 1)", c -> c.steadyOf(2, 1));
     }
 
+    @Says("each price is d or less off its PRICE")
+    static void p30_mixedServices() {
+        BasketCap cap = Texts.of("service a price 3 size 1 slope 0 cost 0;service b price 12 size 1 slope 0 cost 0;"
+                + "service c price 20 size 1 slope 0 cost 0;index 50");
+        int[][] want = {{3, 12, 20}, {4, 13, 20}, {5, 14, 20}};
+        for (int d = 0; d < 3; d++) {
+            for (int s = 0; s < 3; s++) {
+                E.fine(cap, "steadyOf(" + d + ", " + s + ")", cap.steadyOf(d, s), want[d][s]);
+            }
+        }
+        for (String text : Edges.MIXED) {
+            for (int k = 0; k <= 20; k++) {
+                int d = k;
+                int s = k % 3;
+                E.asPlain("steady(" + d + ")", text, c -> c.steady(d), p -> p.steady(d));
+                E.asPlain("steadyOf(" + d + ", " + s + ")", text, c -> c.steadyOf(d, s), p -> p.steadyOf(d, s));
+            }
+        }
+    }
+
     @Says("NONE: 1; 2; 6.")
     static void p30_refusals() {
         E.outside("steadyOf(3, ..)", 0, 1, (c, n) -> c.steadyOf(3, n), 1);
@@ -426,6 +481,17 @@ public final class EdgeBuyersTest {
         trades(Edges.flat(5, 10, 1, 1), new int[] {5, 5}, -10, 0, 1, 1);
     }
 
+    @Says("that by which PROFIT of all is greatest")
+    static void p32_mixedServices() {
+        for (int k = 0; k < 4; k++) {
+            int what = k;
+            for (String text : Edges.MIXED) {
+                E.asPlain("trade(" + what + ")", text, c -> c.trade(what), p -> p.trade(what));
+            }
+            E.asPlain("trade(" + what + ")", Edges.MIXED_FOUR, c -> c.trade(what), p -> p.trade(what));
+        }
+    }
+
     @Says("NONE: 1 (no TEXT, what); 6 (there is none).")
     static void p32_refusals() {
         E.outside("trade", 0, 3, (c, n) -> c.trade(n), 1);
@@ -462,6 +528,16 @@ public final class EdgeBuyersTest {
         E.fine(grow, "at once", grow.reach(0), 0);
         grow.price(0, 20);
         E.fine(grow, "NEW prices don't count", grow.reach(0), 0);
+        BasketCap away = with(Edges.flat(7, 7, 3), 20);
+        E.fine(away, "OFF of PRICES, not of NEW ones", away.reach(0), 0);
+        BasketCap near = with(Edges.flat(20, 0, 10) + ";x 5;carry 0", 0);
+        E.fine(near, "nor these", near.reach(0), -2);
+        for (String text : Edges.MIXED) {
+            for (int k = 0; k < 20; k++) {
+                int v = k;
+                E.asPlain("reach(" + v + ")", text, c -> c.reach(v), p -> p.reach(v));
+            }
+        }
         E.onlyAnswers("reach(0)", c -> c.reach(0));
         E.onlyAnswers("reach(80)", c -> c.reach(80));
     }
@@ -556,8 +632,16 @@ public final class EdgeBuyersTest {
         BasketCap lag = with(Check.A, 6, 5);
         E.fine(lag, "above", lag.share(0, 0), 12);
         E.fine(lag, "below", lag.share(0, 1), 37);
+        E.fine(lag, "above of the other", lag.share(1, 0), 25);
         BasketCap most = with(Edges.flat(20, 0, 200, 200, 200, 200), 20, 20, 20, 20);
         E.fine(most, "a fourth", most.share(3, 1), 4);
+        for (String text : Edges.MIXED) {
+            for (int k = 0; k < 6; k++) {
+                int s = k / 2;
+                int what = k % 2;
+                E.asPlain("share(" + s + ", " + what + ")", text, c -> c.share(s, what), p -> p.share(s, what));
+            }
+        }
         E.onlyAnswers("share(0, 0)", c -> c.share(0, 0));
         E.onlyAnswers("share(1, 1)", c -> c.share(1, 1));
     }

@@ -61,6 +61,16 @@ public final class EdgePricesTest {
         E.fine(light, "the other alone", light.most(1), 4);
     }
 
+    @Says("The greatest price of a SERVICE")
+    static void p13_mixedServices() {
+        for (String text : Edges.MIXED) {
+            for (int k = 0; k < 3; k++) {
+                int s = k;
+                E.asPlain("most(" + s + ")", text, c -> c.most(s), p -> p.most(s));
+            }
+        }
+    }
+
     @Says("NONE: 1.")
     static void p13_refusals() {
         E.outside("most", 0, 1, (c, n) -> c.most(n), 1);
@@ -79,9 +89,30 @@ public final class EdgePricesTest {
             BasketCap cap = Texts.of(texts[i]);
             E.fine(cap, "free(0) of \"" + texts[i] + "\"", cap.free(0), want[i]);
         }
+        StringBuilder four = new StringBuilder();
+        String[] parts = {LIGHT, "service b price 5 size 20 slope 1 cost 0", "service c price 1 size 9 slope 0 cost 20",
+            "service d price 3 size 0 slope 0 cost 4"};
+        for (String part : parts) {
+            four.append(four.length() > 0 ? ";" : "").append(part);
+        }
+        BasketCap each = Texts.of(four.toString());
+        int[] of = {5, 10, 20, 0};
+        for (int s = 0; s < 4; s++) {
+            E.fine(each, "free(" + s + ")", each.free(s), of[s]);
+        }
         BasketCap bound = Texts.of(Edges.flat(0, 0, 9));
         E.fine(bound, "ALLOWED 0 doesn't matter", bound.free(0), 20);
         E.onlyAnswers("free(0)", c -> c.free(0));
+    }
+
+    @Says({"The price of a SERVICE with the greatest PROFIT, were there no cap, of like ones the least."})
+    static void p14_mixedServices() {
+        for (String text : Edges.MIXED) {
+            for (int k = 0; k < 3; k++) {
+                int s = k;
+                E.asPlain("free(" + s + ")", text, c -> c.free(s), p -> p.free(s));
+            }
+        }
     }
 
     @Says("NONE: 1.")
@@ -150,6 +181,14 @@ public final class EdgePricesTest {
         E.fine(cap, "a text", cap.best(), 12);
     }
 
+    @Says("BEST: of all ROWS by which, as NEW prices, the cap would be KEPT, that of the greatest PROFIT")
+    static void p15_mixedServices() {
+        for (String text : Edges.MIXED) {
+            E.asPlain("best()", text, c -> c.best(), p -> p.best());
+        }
+        E.asPlain("best()", Edges.MIXED_FOUR, c -> c.best(), p -> p.best());
+    }
+
     @Says("NONE: 1 (no TEXT).")
     static void p15_refusals() {
         E.withoutText("best()", c -> c.best());
@@ -183,6 +222,20 @@ public final class EdgePricesTest {
         for (int s = 0; s < want.length; s++) {
             E.fine(cap, "laid, " + s, cap.service(s, 1), want[s]);
         }
+    }
+
+    @Says("BEST: the price of a SERVICE.")
+    static void p16_mixedServices() {
+        for (int k = 0; k < 4; k++) {
+            int s = k;
+            for (String text : Edges.MIXED) {
+                E.asPlain("bestOf(" + s + ")", text, c -> c.bestOf(s), p -> p.bestOf(s));
+            }
+            E.asPlain("bestOf(" + s + ")", Edges.MIXED_FOUR, c -> c.bestOf(s), p -> p.bestOf(s));
+        }
+        // b has no weight and loses nothing from 3 on; of a and c 130 can be spent, the least of a first
+        bests("service a price 5 size 30 slope 0 cost 3 quality 40 target 70;"
+                + "service b price 8 size 5 slope 2 cost 4;service c price 4 size 10 slope 0 cost 1;due 2", 0, 3, 13);
     }
 
     @Says("NONE: 1.")
@@ -268,6 +321,17 @@ public final class EdgePricesTest {
         }
     }
 
+    @Says("FAIR: the price of a SERVICE.")
+    static void p18_mixedServices() {
+        for (int k = 0; k < 4; k++) {
+            int s = k;
+            for (String text : Edges.MIXED) {
+                E.asPlain("fairOf(" + s + ")", text, c -> c.fairOf(s), p -> p.fairOf(s));
+            }
+            E.asPlain("fairOf(" + s + ")", Edges.MIXED_FOUR, c -> c.fairOf(s), p -> p.fairOf(s));
+        }
+    }
+
     @Says("NONE: 1.")
     static void p18_refusals() {
         E.outside("fairOf", 0, 1, (c, n) -> c.fairOf(n), 1);
@@ -320,6 +384,14 @@ public final class EdgePricesTest {
         E.fine(cap, "undone", cap.rows(), 11);
     }
 
+    @Says("How many ROWS there are by which the cap would be KEPT.")
+    static void p19_mixedServices() {
+        for (String text : Edges.MIXED) {
+            E.asPlain("rows()", text, c -> c.rows(), p -> p.rows());
+        }
+        E.asPlain("rows()", Edges.MIXED_FOUR, c -> c.rows(), p -> p.rows());
+    }
+
     @Says("NONE: 1 (no TEXT).")
     static void p19_refusals() {
         E.withoutText("rows()", c -> c.rows());
@@ -347,6 +419,22 @@ public final class EdgePricesTest {
         like.price(0, 7);
         E.fine(like, "4 to 7", like.freely(0), 4);
         E.onlyAnswers("freely(0)", c -> c.freely(0));
+    }
+
+    @Says({"How many prices there are of a SERVICE by which, all other NEW prices as they are,",
+        "PROFIT of all is no less than now and the cap is KEPT."})
+    static void p20_mixedServices() {
+        // beside 3 and 4 of 1 each, ALLOWED 19: c, of 2 each, may have 0 .. 6
+        BasketCap cap = with(Edges.flat(5, 0, 1, 1, 2) + ";x 2", 3, 4, 2);
+        E.fine(cap, "freely(2)", cap.freely(2), 5);
+        E.fine(cap, "freely(1)", cap.freely(1), 9);
+        E.fine(cap, "freely(0)", cap.freely(0), 9);
+        for (String text : Edges.MIXED) {
+            for (int k = 0; k < 3; k++) {
+                int s = k;
+                E.asPlain("freely(" + s + ")", text, c -> c.freely(s), p -> p.freely(s));
+            }
+        }
     }
 
     @Says("NONE: 1.")
@@ -396,6 +484,9 @@ public final class EdgePricesTest {
         games(Texts.of(TEN), 20, 0, 5, 10);
         games(Texts.of(Edges.flat(7, 0, 0, 0)), 0, 0, 0, 0);
         games(Texts.of(Edges.flat(0, 0, 1, 1)), 0, 0, 0, 0);
+        // ALLOWED 31, then 32, but 30 alone can be spent in threes, whichever of the two is told
+        games(Texts.of(Edges.flat(5, 0, 3, 3) + ";index 4"), 60, 0, 5, 30);
+        games(Texts.of(Edges.flat(5, 0, 0, 3, 3) + ";index 4"), 60, 0, 0, 30);
         // this year 5 or 6, the next by their weights 10 or 8 and BASE 50 or 48: 6 at 8, 5 at 10 alike
         games(Texts.of(LIGHT), 80, 0, 5, 40);
     }
@@ -414,6 +505,16 @@ public final class EdgePricesTest {
         cap.quality(0, 0);
         cap.become(3, 99);
         games(cap, 0, 0, 0, 0);
+    }
+
+    @Says("PROFIT of both YEARS together the greatest")
+    static void p21_mixedServices() {
+        for (String text : Edges.MIXED) {
+            for (int k = 0; k < 4; k++) {
+                int what = k;
+                E.asPlain("game(" + what + ")", text, c -> c.game(what), p -> p.game(what));
+            }
+        }
     }
 
     @Says("NONE: 1 (no TEXT, what); 6 (no such price keeps the cap).")
@@ -504,6 +605,27 @@ public final class EdgePricesTest {
         E.fine(cap, "undone", cap.path(1, 0), 100);
         cap.quality(0, 5);
         E.fine(cap, "a quality", cap.path(2, 0), 200);
+    }
+
+    @Says({"2 OFF of PRICES behind them, 3 how many YEARS have other PRICES than the one ahead."})
+    static void p22_newPricesAsTheyAreDoNotCount() {
+        BasketCap cap = with(TEN, 0, 10);
+        E.fine(cap, "other PRICES than those told", cap.path(1, 3), 1);
+        E.fine(cap, "and then none", cap.path(8, 3), 1);
+        BasketCap away = with(Edges.flat(5, 2, 9), 20);
+        E.fine(away, "none", away.path(8, 3), 0);
+        E.fine(away, "OFF", away.path(8, 2), 3);
+    }
+
+    @Says("PATH of n YEARS: from now on each YEAR ends with its BEST.")
+    static void p22_mixedServices() {
+        for (String text : Edges.MIXED) {
+            for (int k = 0; k < 4; k++) {
+                int what = k;
+                E.asPlain("path(1, " + what + ")", text, c -> c.path(1, what), p -> p.path(1, what));
+                E.asPlain("path(8, " + what + ")", text, c -> c.path(8, what), p -> p.path(8, what));
+            }
+        }
     }
 
     @Says("NONE: 1 (no TEXT, what); 2.")

@@ -33,6 +33,17 @@ public final class EdgeToldTest {
         }
     }
 
+    @Says("0 SERVICES")
+    static void p06_oneToFourServices() {
+        int[][] sizes = {{1}, {1, 1}, {1, 1, 1}, {1, 1, 1, 1}};
+        for (int n = 1; n <= 4; n++) {
+            BasketCap cap = Texts.of(Edges.flat(1, 0, sizes[n - 1]));
+            E.fine(cap, "about(0)", cap.about(0), n);
+        }
+        BasketCap more = Texts.of(NINE + ";buyer p 1;buyer q 2");
+        E.fine(more, "buyers don't count", more.about(0), 1);
+    }
+
     @Says({"NONE: 1 (no TEXT, what).", "1 there is none such (no TEXT, SERVICE, BUYER, YEAR, IMAGE, what)"})
     static void p06_whatThereIsNot() {
         E.outside("about", 0, 11, (c, n) -> c.about(n), 1);

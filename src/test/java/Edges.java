@@ -124,6 +124,49 @@ final class Edges {
         return b.toString();
     }
 
+    /** Services that are unlike in everything, and buyers more or fewer than they. */
+    static final String[] MIXED = {
+        "service a price 3 size 60 slope 7 cost 2;service b price 11 size 45 slope 1 cost 14;buyer p 3,1;buyer q 0,9;"
+            + "buyer r 5,5;index 12;x 3",
+        "service a price 17 size 120 slope 6 cost 5;service b price 2 size 33 slope 9 cost 0;"
+            + "service c price 9 size 80 slope 3 cost 7 quality 5 target 8;buyer p 1,7,2;due 11;carry 40",
+        "service a price 0 size 90 slope 5 cost 1;service b price 20 size 150 slope 7 cost 18;"
+            + "service c price 6 size 17 slope 2 cost 3;buyer p 2,2,1;buyer q 0,1,0;index 30",
+        "service a price 5 size 30 slope 0 cost 3;service b price 8 size 5 slope 2 cost 4;"
+            + "service c price 4 size 10 slope 0 cost 1;buyer d 1,0,2;buyer e 9,1,1"};
+    static final String MIXED_FOUR = "service a price 7 size 70 slope 3 cost 9;service b price 2 size 180 slope 9 cost 1;"
+            + "service c price 15 size 40 slope 2 cost 4;service d price 10 size 25 slope 1 cost 0;buyer p 1,2,3,4;"
+            + "buyer q 4,1,1,0;x 9";
+
+    interface PlainCall {
+        int on(Plain plain);
+    }
+
+    interface IntCall {
+        int on(BasketCap cap);
+    }
+
+    /** The answer that going through every row gives, at other NEW prices than the told ones too. */
+    void asPlain(String call, String text, IntCall act, PlainCall want) {
+        int services = Texts.of(text).about(0);
+        for (int shift = 0; shift < 3; shift++) {
+            BasketCap cap = Texts.of(text);
+            Plain plain = new Plain();
+            for (int[] f : Texts.numbers(text)) {
+                plain.feed(f[0], f[1], f[2], f[3], f[4]);
+            }
+            plain.text(text.length());
+            for (int s = 0; s < services && shift > 0; s++) {
+                int p = (cap.service(s, 0) * shift + 5 * s) % 21;
+                cap.price(s, p);
+                plain.price(s, p);
+            }
+            int answer = act.on(cap);
+            due(call + " of \"" + text + "\"", answer, want.on(plain));
+            due(call + ", trouble()", cap.trouble(), plain.trouble());
+        }
+    }
+
     // ---- refusals
 
     void refused(String call, Call act, int why) {
