@@ -83,11 +83,13 @@ public final class EdgeBookTest {
 
     @Says("Of a YEAR that has ended")
     static void p47_ninetyNineYears() {
-        BasketCap cap = atYear99();
+        BasketCap spent = atYear99();
+        BasketCap kept = atYear99();
         for (int y = 0; y < 99; y++) {
-            E.fine(cap, "book(" + y + ", 0)", cap.book(y, 0), y % 6 + 5);
-            E.fine(cap, "book(" + y + ", 4)", cap.book(y, 4), cap.book(y, 1) >= y % 6 + 5 ? 1 : 0);
+            E.due("book(" + y + ", 0)", spent.book(y, 0), y % 6 + 5);
+            E.due("book(" + y + ", 4)", kept.book(y, 4), kept.book(y, 1) >= y % 6 + 5 ? 1 : 0);
         }
+        E.due("trouble()", spent.trouble(), 0);
     }
 
     // ---- 48
