@@ -3,9 +3,13 @@ import java.lang.reflect.Field;
 import java.lang.reflect.Member;
 import java.lang.reflect.Method;
 import java.lang.reflect.Modifier;
+import java.nio.file.Files;
+import java.nio.file.Path;
 import java.util.Arrays;
 import java.util.Set;
 import java.util.TreeSet;
+import java.util.regex.Matcher;
+import java.util.regex.Pattern;
 import java.util.stream.Collectors;
 
 /** The public face is the document's and no more; LANGUAGE.md's rules 1, 2, 5, 11 as far as they show there. */
@@ -21,6 +25,7 @@ public final class FaceTest {
 
     public static void main(String[] args) throws Exception {
         face();
+        documentsFace();
         members();
         classesInside();
         CHECK.due("NONE", BasketCap.NONE, -1);
@@ -47,6 +52,37 @@ public final class FaceTest {
         CHECK.due("one constructor", makers.length, 1);
         CHECK.due("public constructor", makers[0].getModifiers(), Modifier.PUBLIC);
         CHECK.due("without parameters", makers[0].getParameterCount(), 0);
+    }
+
+    /** The face once more as the document itself writes it, with what each call answers and throws. */
+    private static void documentsFace() throws Exception {
+        Path doc = Path.of("../shared/DOC.md");
+        if (!Files.exists(doc)) {
+            System.out.println("FaceTest: " + doc + " isn't here, so the face was compared with this test's list alone");
+            return;
+        }
+        Set<String> want = new TreeSet<>();
+        Matcher m = Pattern.compile("public (int|boolean) (\\w+)\\(([^)]*)\\)( throws \\w+)?;")
+                .matcher(Files.readString(doc));
+        while (m.find()) {
+            String types = m.group(3).replaceAll(" \\w+(, )?", ",").replaceAll(",$", "");
+            want.add(m.group(1) + " " + m.group(2) + "(" + types + ")" + (m.group(4) == null ? "" : m.group(4)));
+        }
+        Set<String> got = new TreeSet<>();
+        for (Method method : BasketCap.class.getDeclaredMethods()) {
+            if (Modifier.isPublic(method.getModifiers())) {
+                got.add(written(method));
+            }
+        }
+        CHECK.due("calls of the document", want.size(), 49);
+        CHECK.due("the document's face, " + want + ", is " + got, got.equals(want), true);
+    }
+
+    private static String written(Method m) {
+        String thrown = Arrays.stream(m.getExceptionTypes()).map(c -> " throws " + c.getSimpleName())
+                .collect(Collectors.joining());
+        return m.getReturnType() + " " + m.getName() + Arrays.stream(m.getParameterTypes()).map(Class::getName)
+                .collect(Collectors.joining(",", "(", ")")) + thrown;
     }
 
     private static void members() {
